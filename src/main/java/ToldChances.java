@@ -572,7 +572,7 @@ public final class ToldChances {
 
         void become(long newUpper, long newLower) {
             long shared = sharedBy(Math.abs(newUpper), newLower);
-            if (shared > 0) {
+            if (newLower > 0 && shared > 0) {
                 upper = newUpper / shared;
                 lower = newLower / shared;
             }
