@@ -9,6 +9,12 @@ public final class BoundaryTest {
     private static final int LEAST = Integer.MIN_VALUE, GREATEST = Integer.MAX_VALUE;
     private static final String[] WORDS = {"square", "line", "edge", "cube"};
 
+    /** Calls that only tell: they change nothing, so each row is tried with them between, too. */
+    private static final String STIR = "told 4 0;came 0;miss 3 1;rank 0;lure 7;many 5;bin 0 0 2;pools 4;pool 0 0 2;"
+            + "better 0 1 0;report 4 3;report 0 -1;area 0 0;split 0 5 0;split 4 2 1;joined 0 0 0;luck 0 4 1;flat 0 1;"
+            + "score 4 0;score 0 0";
+    private static final int ROOM_TO_STIR = House.MOST_CALLS - 30;
+
     /** The greatest least shared multiple (16380) that sizes of bins of 40 cases can have; empty bins too. */
     private static final String AWKWARD = "cases 0 yynnyyyyyyynnyyyynyyyyyynyyyyyyyyynnnnyn"
             + " 5 8 4 8 17 13 14 16 11 18 19 14 18 22 26 21 24 24 38 38 32 35 33 30 35 46 41 44 49 40 45 46 43 47 41 42"
@@ -26,14 +32,16 @@ public final class BoundaryTest {
 
     private static void due(String sentence, String before, String call, long want) {
         rows++;
-        String got;
-        try {
-            got = Long.toString(new House(before).call(call));
-        } catch (IllegalStateException thrown) {
-            got = thrown.getMessage();
-        }
-        if (!got.equals(Long.toString(want))) {
-            tellWrong(sentence, before, call, got, Long.toString(want));
+        for (String between : new String[] {"", STIR}) {
+            House house = new House(before);
+            if (house.calls() < ROOM_TO_STIR || between.isEmpty()) {
+                house.play(between);
+                long got = house.call(call);
+                if (got != want) {
+                    tellWrong(sentence, before, call, Long.toString(got), Long.toString(want));
+                    return;
+                }
+            }
         }
     }
 
@@ -44,14 +52,14 @@ public final class BoundaryTest {
 
     private static void dueReport(String sentence, String before, int t, String want) {
         rows++;
-        String got;
-        try {
-            got = new House(before).report(t);
-        } catch (IllegalStateException thrown) {
-            got = thrown.getMessage();
-        }
-        if (!got.equals(want)) {
-            tellWrong(sentence, before, "report " + t, got, want);
+        for (String between : new String[] {"", STIR}) {
+            House house = new House(before);
+            house.play(between);
+            String got = house.report(t);
+            if (!got.equals(want)) {
+                tellWrong(sentence, before, "report " + t, got, want);
+                return;
+            }
         }
     }
 
@@ -107,6 +115,19 @@ public final class BoundaryTest {
         due(sentence, times(511, "tell 3 39 7"), "tell 3 39 8", 7);
         due(sentence, times(511, "cut 50"), "cut 50", 0);
         due(sentence, times(511, "honest"), "honest", 101);
+    }
+
+    private static void constants() {
+        promise = "terms";
+        long[] constants = {ToldChances.UNKNOWN, ToldChances.OUTSIDE, ToldChances.STATE, ToldChances.FULL,
+            ToldChances.NONE, ToldChances.LOST};
+        long[] wants = {-1, -2, -3, -4, -9, Long.MIN_VALUE};
+        for (int i = 0; i < wants.length; i++) {
+            rows++;
+            if (constants[i] != wants[i]) {
+                tellWrong("REFUSALS", "", "constant " + i, Long.toString(constants[i]), Long.toString(wants[i]));
+            }
+        }
     }
 
     private static void newObject() {
@@ -810,8 +831,8 @@ public final class BoundaryTest {
         dueFraction("or (5) PARTS", "cases 0 ny 100 0", "split 0 5", 1, 1);
         dueFraction("0 DOUBT", "cases 0 yn 1 1", "split 0 0", 1, 4);
         dueFraction("2 HONESTY", times(40, "tell 0 # 100;no #"), "split 0 2", 1, 1);
-        dueFraction("one case", "cases 0 y 37", "split 0 2", 3969, 10000);
-        dueFraction("one case", "cases 0 y 37", "split 0 5", 3969, 10000);
+        dueFraction("2 HONESTY", "cases 0 y 37", "split 0 2", 3969, 10000);
+        dueFraction("or (5) PARTS", "cases 0 y 37", "split 0 5", 3969, 10000);
     }
 
     private static void joins() {
@@ -825,6 +846,8 @@ public final class BoundaryTest {
         dueFraction(sentence, "cases 0 yn 60 40;cut 50;cut 55", "joined 0 0", 0, 1);
         dueFraction(sentence, "cases 0 yn 60 40;cut 50;cut 55", "joined 0 1", 0, 1);
         dueFraction(sentence, "cases 0 yn 60 40;cut 1;cut 2", "joined 0 0", 0, 1);
+        dueFraction(sentence, "cases 0 yn 60 40;cut 40", "joined 0 0", 0, 1);
+        dueFraction(sentence, "cases 0 yn 60 40;cut 61", "joined 0 0", 0, 1);
         dueFraction(sentence, "cases 0 ynyn 60 60 40 40;cut 50", "joined 0 0", 0, 1);
         dueFraction(sentence, groups(0, 0, 20, 0, 100, 20, 20) + "cut 50", "joined 0 0", 1, 4);
         dueFraction(sentence, groups(0, 0, 19, 9, 100, 21, 10) + "cut 50", "joined 0 0", 1, 638400);
@@ -951,6 +974,7 @@ public final class BoundaryTest {
         dueFraction(sentence, groups(0, 0, 20, 20, 100, 20, 0), "flat 0", 1, 4);
         dueFraction(sentence, groups(0, 0, 20, 0, 100, 20, 20), "flat 0", 0, 1);
         dueFraction(sentence, "cases 0 y 0", "flat 0", 0, 1);
+        dueFraction(sentence, groups(0, 10, 2, 2, 20, 2, 1), "flat 0", 3, 16);
         dueFraction(sentence, groups(0, 50, 40, 1), "flat 0", 39, 1600);
         dueFraction("the same for the same chance", "cases 0 yn 50 50", "flat 0", 1, 4);
         dueFraction("never less for a greater one", "cases 0 yn 50 51", "flat 0", 1, 4);
@@ -1058,6 +1082,12 @@ public final class BoundaryTest {
         dueReport(sentence, "cases 0 y 100", 0, "T0 square 0/1 +");
         dueReport(sentence, "cases 1 y 0", 1, "T1 square 10000/1 -");
         dueReport(sentence, rule("cube") + "cases 1 y 0", 4, "T4 cube 1000000/1 -");
+        for (int far : new int[] {1, 9, 10, 11, 99, 100}) {
+            String sign = far < 50 ? "+" : "-";
+            dueReport(sentence, rule("line") + "cases 0 n " + far, 0, "T0 line " + far + "/1 " + sign);
+        }
+        dueReport(sentence, rule("line") + groups(0, 1, 1, 0, 0, 8, 0), 0, "T0 line 1/9 +++++++++");
+        dueReport(sentence, rule("line") + groups(0, 9, 1, 0, 0, 9, 0), 0, "T0 line 9/10 ++++++++++");
         dueReport(sentence, longest, 2, "T2 cube 39970299/40 " + "-".repeat(40));
         dueReport(sentence, rule("line") + "cases 3 yyn 91 100 0", 3, "T3 line 3/1 +++");
         dueReport(sentence, rule("line") + "cases 3 yyn 90 100 0", 3, "T3 line 10/3 +++");
@@ -1093,6 +1123,7 @@ public final class BoundaryTest {
     }
 
     public static void main(String[] args) {
+        constants();
         calls();
         newObject();
         tell();

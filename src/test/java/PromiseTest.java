@@ -246,7 +246,6 @@ public final class PromiseTest {
 
     private static void faults() {
         promise = 12;
-        ToldChances x = new ToldChances();
         Object[][] faults = {
             {"", 0}, {"x", 0}, {" yes 1", 0}, {"YES 1", 0}, {"t", 1}, {"tx", 1}, {"tell", 4}, {"tells", 4},
             {"tell ", 5}, {"tell  0", 5}, {"tell x", 5}, {"tell -", 5}, {"tell 4", 5}, {"tell 04", 6},
@@ -255,16 +254,19 @@ public final class PromiseTest {
             {"tell 3 039 100 ", 14}, {"tell 3 039 1000", 14}, {"tell 3 039 99 9", 13}, {"drop", 4}, {"drop 1", 6},
             {"drop 4", 5}, {"drop 1 2 3", 8},
             {"drop 1 40", 8}, {"dr op", 2}, {"y", 1}, {"yes", 3}, {"yes ", 4}, {"yes 4 ", 5},
-            {"yes 40", 5}, {"yes 040", 6}, {"yes 0039", 7}, {"no", 2}, {"nO", 1}, {"no 99", 4}, {"no 40", 4}, {"noo", 2},
-            {"open 40", 6}, {"open 3x", 6}, {"ope", 3}, {"weigh 3", 7}, {"weigh 4 1", 6}, {"weigh 3 10", 9}, {"weigh 3 009 ", 11},
+            {"yes 40", 5}, {"yes 040", 6}, {"yes 0039", 7}, {"no", 2}, {"nO", 1}, {"no 99", 4}, {"no 40", 4},
+            {"noo", 2}, {"open 40", 6}, {"open 3x", 6}, {"ope", 3}, {"weigh 3", 7}, {"weigh 4 1", 6},
+            {"weigh 3 10", 9}, {"weigh 3 009 ", 11},
             {"weigh 3 0009", 11}, {"line", 0}, {"yes 1\n", 5}, {"yes\t1", 3}, {"yes 1:", 5}, {"yes 1/", 5},
         };
         for (Object[] fault : faults) {
             String text = (String) fault[0];
+            ToldChances x = new ToldChances();
             due("line of '" + text + "'", lineOf(x, text), -100 - (Integer) fault[1]);
             due("the tape stays after '" + text + "'", x.wipe(), text.length());
+            due("nothing was done", x.many(0) + x.many(1) + x.many(2), 0);
         }
-        due("nothing was done", x.many(0) + x.many(1) + x.many(2), 0);
+        ToldChances x = new ToldChances();
         for (int i = 0; i < 24; i++) {
             x.key('t');
         }
