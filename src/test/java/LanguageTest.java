@@ -8,6 +8,7 @@ import java.nio.file.Files;
 import java.nio.file.Path;
 import java.util.ArrayList;
 import java.util.List;
+import java.util.Map;
 import java.util.Set;
 import java.util.TreeSet;
 import java.util.regex.Matcher;
@@ -33,6 +34,21 @@ public final class LanguageTest {
         "\\btoString\\b", "\\bSystem\\.(?!arraycopy)", "\\bThread\\b", "\\bObject\\b", "\\bvar\\b", "\\bdouble\\b",
         "\\bfloat\\b", "\\bpublic\\s+static\\s+(?!final\\b)", "static\\s*\\{", "\"\\s*\\+", "\\+\\s*\"",
     };
+
+    /** Rule 4, as javac writes it; the last two are what every constructor and every enum calls by itself. */
+    private static final String[] LIBRARY = {
+        "java/lang/String\\.(length|charAt|isEmpty|equals|substring|toCharArray)\\(.*",
+        "java/lang/String\\.indexOf\\(I\\)I", "java/lang/String\\.<init>\\(\\[C\\)V",
+        "java/lang/StringBuilder\\.(<init>|charAt|setCharAt|setLength|deleteCharAt|reverse|length|toString)\\(.*",
+        "java/lang/StringBuilder\\.append\\((C|I|Ljava/lang/String;)\\).*",
+        "java/util/(ArrayList|List)\\.(<init>|add|get|set|remove|size|isEmpty|clear|iterator|of)\\(.*",
+        "java/lang/(Integer|Long|Math)\\.[a-zA-Z]+(?<!Exact)\\([IJ]+\\)[IJZ]",
+        "java/lang/System\\.arraycopy\\(.*", "java/util/Arrays\\.(copyOf|copyOfRange|fill)\\(.*",
+        "\\[.*\\.clone\\(\\).*", "java/lang/Object\\.<init>\\(\\)V", "java/lang/Enum\\.(<init>|valueOf)\\(.*",
+    };
+
+    private static final int MOST_DEEP = 8;
+    private static final int MOST_FIELDS = 20;
 
     private static int wrong = 0;
 
@@ -125,6 +141,75 @@ public final class LanguageTest {
         }
     }
 
+    // ---- what javac made
+
+    private static List<Class<?>> allClasses() {
+        List<Class<?>> all = new ArrayList<>(List.of(ToldChances.class));
+        all.addAll(List.of(ToldChances.class.getDeclaredClasses()));
+        return all;
+    }
+
+    private static void lookAtFields() {
+        for (Class<?> type : allClasses()) {
+            int own = 0;
+            for (Field field : type.getDeclaredFields()) {
+                if (Modifier.isStatic(field.getModifiers())) {
+                    demand(Modifier.isFinal(field.getModifiers()) && mayBeStatic(field.getType()),
+                            "a static field that is no constant: " + field);
+                } else {
+                    own++;
+                    demand(!type.isEnum() || mayBeInEnum(field.getType()), "a field that no enum may have: " + field);
+                }
+            }
+            demand(own <= MOST_FIELDS, "too many fields: " + type + " has " + own);
+        }
+    }
+
+    private static boolean mayBeInEnum(Class<?> type) {
+        return List.of(int.class, long.class, boolean.class, String.class).contains(type);
+    }
+
+    private static boolean mayBeStatic(Class<?> type) {
+        Class<?> element = type.isArray() ? type.getComponentType() : type;
+        return mayBeInEnum(type) || type == char.class || element.isEnum()
+                || type.isArray() && List.of(int.class, long.class, char.class, byte.class).contains(element);
+    }
+
+    private static void lookAtCode() throws IOException {
+        List<ClassFile> files = new ArrayList<>();
+        for (Class<?> type : allClasses()) {
+            files.add(new ClassFile(type));
+        }
+        Map<String, ClassFile.Body> all = ClassFile.allBodies(files);
+        demand(all.size() > 90, "so few methods were read that the test itself must be wrong: " + all.size());
+        for (ClassFile file : files) {
+            demand(!file.hasLambdas, "a lambda, a method reference or texts joined by + in " + file.name);
+        }
+        for (Map.Entry<String, ClassFile.Body> entry : all.entrySet()) {
+            lookAtBody(entry.getKey(), entry.getValue(), all);
+        }
+    }
+
+    private static void lookAtBody(String name, ClassFile.Body body, Map<String, ClassFile.Body> all) {
+        demand(!body.throwsOrCatches, "throws or catches: " + name);
+        boolean isBeginning = name.contains(".<init>(") || name.contains(".<clinit>(") || name.contains(".$values(");
+        demand(!body.makes || isBeginning, "makes an object outside a constructor: " + name);
+        for (String call : body.calls) {
+            demand(all.containsKey(call) || isLibrary(call), name + " calls what is not in the library: " + call);
+        }
+        List<String> chain = ClassFile.longestChain(all, name, List.of());
+        demand(chain.size() <= MOST_DEEP, "calls go " + chain.size() + " deep: " + chain);
+    }
+
+    private static boolean isLibrary(String call) {
+        for (String pattern : LIBRARY) {
+            if (call.matches(pattern)) {
+                return true;
+            }
+        }
+        return false;
+    }
+
     /** No call may make objects: all calls of a run share one room that is never swept. */
     private static void lookAtRoom() {
         com.sun.management.ThreadMXBean bean =
@@ -165,6 +250,8 @@ public final class LanguageTest {
     public static void main(String[] args) throws IOException {
         lookAtFace();
         lookAtSource();
+        lookAtFields();
+        lookAtCode();
         lookAtRoom();
         System.out.println(wrong == 0 ? "the language is kept" : wrong + " rules are broken");
         if (wrong != 0) {
